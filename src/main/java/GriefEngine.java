@@ -965,8 +965,8 @@ public final class GriefEngine {
         private void spread(int t, int g) {
             for (int c = 0; c < CHOICES; c++) {
                 int to = kind.left(c, g);
-                int miles = before[t][g] + gain(t, g, c);
-                before[t + 1][to] = Math.max(before[t + 1][to], miles);
+                int gain = c == DRIVE ? kind.runs(seasonOf(firstDay + t), g) : 0;
+                before[t + 1][to] = Math.max(before[t + 1][to], before[t][g] + gain);
             }
         }
 
@@ -983,11 +983,8 @@ public final class GriefEngine {
         }
 
         private int milesBy(int t, int g, int c) {
-            return gain(t, g, c) + after[t + 1][kind.left(c, g)];
-        }
-
-        private int gain(int t, int g, int c) {
-            return c == DRIVE ? kind.runs(seasonOf(firstDay + t), g) : 0;
+            int gain = c == DRIVE ? kind.runs(seasonOf(firstDay + t), g) : 0;
+            return gain + after[t + 1][kind.left(c, g)];
         }
 
         int mostMiles() {
