@@ -133,6 +133,10 @@ public final class RankTest {
         reads("rank ", -15);
         reads("ran", -10);
         reads("ranks;", -10);
+        reads("sank;", -10);
+        reads("rang;", -10);
+        reads("rank;eriver 0 0;", -15);
+        reads("rank;ways 1 0;", -15);
         reads("rank0;", -14);
         reads(" ;rank;", -11);
         reads("driver 0 0;rank;", -10);
