@@ -34,7 +34,6 @@ public final class GriefEngine {
     private static final int BAD_BELOW_NONE = -10;
     private static final int FAULT_BASE = -10;
 
-    private final Plain[] kinds;
     private final Rank live;
     /** A second rank, so that a text or a year can be tried without touching the live one. */
     private final Rank draft;
@@ -49,12 +48,9 @@ public final class GriefEngine {
     private long below;
 
     public GriefEngine() {
-        kinds = new Plain[] {
-            new Plain(), new Keeper(), new Sham(), new Spring(), new Teller(), new Old()
-        };
-        live = new Rank(kinds);
-        draft = new Rank(kinds);
-        images = new Rank[] {new Rank(kinds), new Rank(kinds)};
+        live = new Rank();
+        draft = new Rank();
+        images = new Rank[] {new Rank(), new Rank()};
         kept = new boolean[IMAGES];
         text = new Text();
         rows = new Rows();
@@ -441,7 +437,7 @@ public final class GriefEngine {
     private int kindsThatFit(int i) {
         int fitting = 0;
         for (int k = 0; k < KINDS; k++) {
-            if (live.notesFit(i, kinds[k])) {
+            if (live.notesFit(i, live.kinds[k])) {
                 fitting |= 1 << k;
             }
         }
@@ -465,7 +461,8 @@ public final class GriefEngine {
 
     private int mostAlike(int fitting, int season, int grief, int c) {
         for (int k = 0; k < KINDS; k++) {
-            signs[k] = kinds[k].runs(season, grief) * GRIEFS + kinds[k].left(c, grief);
+            Plain kind = live.kinds[k];
+            signs[k] = kind.runs(season, grief) * GRIEFS + kind.left(c, grief);
         }
         int most = 0;
         for (int k = 0; k < KINDS; k++) {
@@ -620,7 +617,9 @@ public final class GriefEngine {
 
     /** All that an image keeps: drivers, the day, notes, trips, and what may be undone. */
     private static final class Rank {
-        final Plain[] kinds;
+        final Plain[] kinds = {
+            new Plain(), new Keeper(), new Sham(), new Spring(), new Teller(), new Old()
+        };
         final int[] kind = new int[DRIVERS];
         final int[] grief = new int[DRIVERS];
         final int[] miles = new int[DRIVERS];
@@ -632,10 +631,6 @@ public final class GriefEngine {
         int noteCount;
         int tripCount;
         int undoCount;
-
-        Rank(Plain[] kinds) {
-            this.kinds = kinds;
-        }
 
         void reset() {
             size = 0;
