@@ -81,7 +81,7 @@ public final class DaysTest {
         C.refused("days(-1, 0)", e, x -> x.days(-1, 0), -2, 0);
         C.refused("days(1, -1)", e, x -> x.days(1, -1), -2, 0);
         C.refused("days(1, 3)", e, x -> x.days(1, 3), -2, 0);
-        // 10 days of it lie in winter, 10 in spring, in which it doesn't run.
+        // Two days of them lie in winter, two in spring, in which it doesn't run.
         GriefEngine f = new GriefEngine();
         f.days(18, 2);
         f.driver(5, 99);

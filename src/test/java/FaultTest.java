@@ -17,6 +17,7 @@ public final class FaultTest {
         theFirstFaultIsTold();
         theLastPlaceOfAll();
         allStays();
+        aFaultBehindATextThatWasRead();
         aFaultIsNoRefusal();
         C.end();
     }
@@ -232,6 +233,24 @@ public final class FaultTest {
         C.due("read() again", e.read(), -44);
         C.due("the text stays", e.clear(), faulty.length());
         C.due("undo()", e.undo(), 0);
+    }
+
+    /** One text is read; each that comes behind it is looked at from its first byte on. */
+    private static void aFaultBehindATextThatWasRead() {
+        GriefEngine e = Check.typed(Ranks.none(), "rank;driver 1 9;days 4 0;");
+        C.due("read()", e.read(), 3);
+        int[] places = {0, 0, 0, 4, 0, 5};
+        String[] texts = {"", "%", "ranks;", "rank", ";", "rank;rank;"};
+        for (int k = 0; k < texts.length; k++) {
+            Check.typed(e, texts[k]);
+            int due = -10 - places[k];
+            C.only("read() of \"" + texts[k] + "\" behind one that was read", e, x -> x.read(), due);
+        }
+        C.due("drivers", e.count(0), 1);
+        C.due("the day", e.count(1), 4);
+        Check.typed(e, "rank;");
+        C.due("read() once more", e.read(), 1);
+        C.due("drivers", e.count(0), 0);
     }
 
     private static void aFaultIsNoRefusal() {

@@ -13,6 +13,9 @@ public final class FullTest {
         fullIsOfAllDriversTogether();
         fullOnceMoreBehindForgetting();
         eightThatMayBeUndone();
+        theSixthOfAFullRank();
+        theSixthOfATextThatIsRead();
+        anImageOfAllThatIsFull();
         badGoesAheadOfFull();
         C.end();
     }
@@ -186,6 +189,98 @@ public final class FullTest {
             }
         }
         return 31 * (31 * h) + 1;
+    }
+
+    private static void isNow(String when, GriefEngine e, int i, int kind, int grief, int miles) {
+        C.due(when + ": kind of " + i, e.of(i, 0), kind);
+        C.due(when + ": grief of " + i, e.of(i, 1), grief);
+        C.due(when + ": miles of " + i, e.of(i, 2), miles);
+    }
+
+    /** The last of six is undone, kept in an image, and gone on with as the others are. */
+    private static void theSixthOfAFullRank() {
+        GriefEngine e = drivers(6);
+        C.due("day(5, 0)", e.day(5, 0), 50);
+        isNow("behind a day", e, 5, 0, 44, 50);
+        C.due("undo()", e.undo(), 0);
+        isNow("undone", e, 5, 0, 50, 0);
+        e.day(5, 0);
+        C.due("day(5, 0) again", e.day(5, 0), 44);
+        isNow("behind two days", e, 5, 0, 39, 94);
+        C.due("undo()", e.undo(), 1);
+        isNow("one of two undone", e, 5, 0, 44, 50);
+        C.due("image(1)", e.image(1), 1);
+        e.rank();
+        for (int k = 0; k < 6; k++) {
+            e.driver(3, 99);
+        }
+        e.days(2, 0);
+        isNow("another rank", e, 5, 3, 80, 99 + 89);
+        C.due("from(1)", e.from(1), 1);
+        isNow("from an image", e, 5, 0, 44, 50);
+        isNow("from an image", e, 4, 1, 39, 0);
+        C.due("undo()", e.undo(), 0);
+        isNow("from an image, undone", e, 5, 0, 50, 0);
+        isNow("from an image, undone", e, 4, 1, 40, 0);
+    }
+
+    private static void theSixthOfATextThatIsRead() {
+        String five = "rank;driver 1 1;driver 1 1;driver 1 1;driver 1 1;driver 4 99;";
+        GriefEngine e = Check.typed(drivers(6), five + "driver 2 60;days 1 0;");
+        C.due("read()", e.read(), 8);
+        isNow("read", e, 4, 4, 90, 99);
+        isNow("read", e, 5, 2, 53, 20);
+        // Of a rank with fewer, nothing of those that were there is left.
+        Check.typed(e, "rank;driver 0 7;");
+        C.due("read() of one", e.read(), 2);
+        C.refused("of(1, 0)", e, x -> x.of(1, 0), -2, 0);
+        C.due("the next one's number", e.driver(3, 8), 1);
+        isNow("the next one", e, 1, 3, 8, 0);
+    }
+
+    private static GriefEngine ofOtherNotes() {
+        GriefEngine e = drivers(2);
+        for (int k = 0; k < 9; k++) {
+            e.days(1, k % 3);
+        }
+        for (int k = 0; k < 6; k++) {
+            e.note(k % 2, 20, 0, 20, 0, 18);
+        }
+        for (int k = 0; k < 4; k++) {
+            e.gone(k % 2, 1, 7);
+        }
+        return e;
+    }
+
+    /** What comes into the place of it is not what the image kept. */
+    private static void anImageOfAllThatIsFull() {
+        GriefEngine e = ofOtherNotes();
+        C.due("image(0)", e.image(0), 1);
+        e.forget(0);
+        e.forget(1);
+        for (int k = 0; k < 6; k++) {
+            e.note(k % 2, 20, 1, 0, 2, 20);
+        }
+        for (int k = 0; k < 4; k++) {
+            e.gone(k % 2, 2, 9);
+        }
+        for (int k = 0; k < 8; k++) {
+            e.days(5, 2);
+        }
+        C.due("is(1), of other notes", e.is(1), 32);
+        C.due("from(0)", e.from(0), 1);
+        C.due("is(0)", e.is(0), 2 + 16);
+        C.due("is(1)", e.is(1), 2 + 16);
+        // An old one and a teller gone 7 on the first day.
+        C.due("had(0, 1)", e.had(0, 1), 7);
+        C.due("had(1, 1)", e.had(1, 1), 7);
+        C.same("from(0)", Sight.now(e), Sight.now(ofOtherNotes()));
+        C.due("a 7th note", e.note(0, 0, 0, 0, 0, 0), -4);
+        C.due("a 5th gone", e.gone(0, 1, 0), -4);
+        for (int k = 8; k >= 1; k--) {
+            C.due("undo() to day " + k, e.undo(), k);
+        }
+        C.due("undo() of none", e.undo(), -3);
     }
 
     private static void badGoesAheadOfFull() {

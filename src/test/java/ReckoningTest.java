@@ -8,14 +8,19 @@ public final class ReckoningTest {
         then();
         over();
         most();
+        mostByResting();
         soonest();
+        soonestOfTheLeastThatRuns();
         home();
         tell();
         is();
         look();
+        lookOfOneKindAlone();
         had();
         fares();
+        faresOfHalf();
         starts();
+        startsOverWintersEnd();
         years();
         yearsWrapAround();
         digestWrapsAround();
@@ -83,6 +88,25 @@ public final class ReckoningTest {
         C.due("miles gone don't count", droveOnce().most(0, 1, -1), 89);
     }
 
+    /**
+     * A sham of 10 on the last day of winter: at rest 9, then 6, 5, 4, 4, 3 in spring; driven at
+     * once 3, 5, 4, 4, 3, 2: only a row that rests first goes 22.
+     */
+    private static void mostByResting() {
+        GriefEngine e = Ranks.oneOn(19, 2, 10);
+        int[] due = {2, 0, 0, 0, 0, 0};
+        C.due("by resting: most(0, 6, -1)", e.most(0, 6, -1), 22);
+        for (int k = 0; k < 6; k++) {
+            C.due("by resting: most(0, 6, " + k + ")", e.most(0, 6, k), due[k]);
+        }
+        C.due("by resting: most(0, 6, 6)", e.most(0, 6, 6), -5);
+        C.due("by resting: soonest(0, 22)", e.soonest(0, 22), 6);
+        C.due("by resting: soonest(0, 23)", e.soonest(0, 23), 7);
+        // Of five days both ways go 19: the first of them is due.
+        C.due("in five: most(0, 5, -1)", e.most(0, 5, -1), 19);
+        C.due("in five: most(0, 5, 0)", e.most(0, 5, 0), 0);
+    }
+
     private static GriefEngine droveOnce() {
         GriefEngine e = one(0, 99);
         e.days(1, 0);
@@ -110,6 +134,16 @@ public final class ReckoningTest {
         for (int n = 1; n < 7; n++) {
             C.due("soonest for 1 more than in " + n, f.soonest(0, f.most(0, n, -1) + 1), n + 1);
         }
+    }
+
+    /** It has no GRIEF left behind that DAY, but the miles are gone. */
+    private static void soonestOfTheLeastThatRuns() {
+        C.due("of 1: soonest(0, 1)", one(0, 1).soonest(0, 1), 1);
+        C.due("of 0: soonest(0, 1)", one(0, 0).soonest(0, 1), 2);
+        C.due("of 1, in spring: soonest(0, 2)", Ranks.oneOn(20, 0, 1).soonest(0, 2), 1);
+        C.due("of 1, in spring: soonest(0, 3)", Ranks.oneOn(20, 0, 1).soonest(0, 3), 2);
+        // A sham of 1 runs nothing at all: told once it has 2, in spring 1 mile.
+        C.due("a sham of 1: soonest(0, 1)", Ranks.oneOn(20, 2, 1).soonest(0, 1), 2);
     }
 
     private static void home(GriefEngine e, int n, int far, int turn) {
@@ -188,6 +222,24 @@ public final class ReckoningTest {
         C.due("look of 0, plain or spring: all like, the least", f.look(0), 0);
     }
 
+    /** Of one KIND alone all mornings are like: the least. */
+    private static void lookOfOneKindAlone() {
+        int[][] notes = {{20, 1, 40, 0, 17}, {20, 0, 20, 0, 18}, {20, 0, 6, 0, 17}, {20, 1, 0, 2, 19},
+            {20, 0, 20, 2, 17}, {20, 0, 20, 2, 20}};
+        for (int kind = 0; kind < 6; kind++) {
+            for (int grief : new int[] {0, 1, 4, 20, 99}) {
+                GriefEngine e = one(0, grief);
+                int[] n = notes[kind];
+                e.note(0, n[0], n[1], n[2], n[3], n[4]);
+                if (kind == 1) {
+                    e.note(0, 20, 0, 20, 2, 19);
+                }
+                C.due("is(0): kind " + kind + " alone", e.is(0), 1 << kind);
+                C.due("look(0) of kind " + kind + " alone, of " + grief, e.look(0), 0);
+            }
+        }
+    }
+
     private static void had() {
         GriefEngine e = one(0, 50);
         e.gone(0, 1, 0);
@@ -232,6 +284,30 @@ public final class ReckoningTest {
         C.due("of 0 and 1: the other way", g.fares(2, 0), 1 + 2 + 4);
     }
 
+    private static int faresOfTwo(int kind, int grief) {
+        GriefEngine e = one(kind, grief);
+        e.driver(kind, grief);
+        return e.fares(0, 1);
+    }
+
+    /** What one gets by half of the miles, cut, against what resting spares. */
+    private static void faresOfHalf() {
+        // 6 miles, 3 if both drive; resting spares 2.
+        C.due("shams of 20", faresOfTwo(2, 20), 1);
+        // 3 miles, 1 if both drive; resting spares 1: one of them may rest, not both.
+        C.due("shams of 10", faresOfTwo(2, 10), 1 + 2 + 4);
+        // 30 miles, 15 if both drive; resting spares 10.
+        C.due("old ones of 99", faresOfTwo(5, 99), 1);
+        // 2 miles, 1 if both drive; resting spares 1.
+        C.due("old ones of 2", faresOfTwo(5, 2), 1 + 2 + 4);
+        // 1 mile, none if both drive; resting spares 1: any but both driving.
+        C.due("old ones of 1", faresOfTwo(5, 1), 2 + 4 + 8);
+        C.due("old ones of 0", faresOfTwo(5, 0), 15);
+        // A keeper of 1 keeps it by driving, and has none of it behind resting: less than nothing.
+        C.due("keepers of 1", faresOfTwo(1, 1), 1);
+        C.due("keepers of 0", faresOfTwo(1, 0), 15);
+    }
+
     private static void fraction(GriefEngine e, int n, int c, long above, long below) {
         C.due("starts(0, " + n + ", " + c + ")", e.starts(0, n, c), 1);
         C.due("part(0)", e.part(0), above);
@@ -254,6 +330,25 @@ public final class ReckoningTest {
         // The most of all: a keeper of 99 in spring, 198, 180, 162, 146, 132, 120.
         fraction(Ranks.oneOn(20, 1, 99), 6, 0, 938, 1);
         fraction(one(0, 0), 6, 5, 0, 1);
+    }
+
+    /** Of 10: left by driving 8, then 7 either way; by resting 9, then 8 either way. */
+    private static void startsOverWintersEnd() {
+        GriefEngine e = Ranks.oneOn(19, 0, 10);
+        fraction(e, 1, 5, 5, 1);
+        // Half of 10; a quarter of 16 and of 18.
+        fraction(e, 2, 5, 27, 2);
+        // Half of what 7 and 8 run by halves: 14 and 16.
+        fraction(e, 3, 5, 21, 1);
+        GriefEngine f = Ranks.oneOn(18, 0, 10);
+        // Half of 10; a quarter of 8 and of 9, still in winter; 7.5 again.
+        fraction(f, 2, 5, 37, 4);
+        fraction(f, 3, 5, 67, 4);
+        // A spring one goes nowhere from there on.
+        fraction(Ranks.oneOn(19, 3, 10), 6, 5, 5, 1);
+        fraction(Ranks.oneOn(20, 3, 10), 6, 5, 0, 1);
+        // Two days of spring, on which it doesn't run, then one of summer, by 7 or 8.
+        fraction(Ranks.oneOn(38, 3, 10), 3, 5, 15, 2);
     }
 
     private static void years() {
